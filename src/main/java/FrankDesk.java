@@ -45,7 +45,7 @@ public final class FrankDesk {
         if (version < 0 || version < books.at(Books.VERSION)) {
             return NO;
         }
-        int answer = enter(Books.NEW_VERSION, version, 0);
+        int answer = journal.append(Books.NEW_VERSION, version, 0);
         // The table lives outside the memory, so it changes only once its record is whole.
         if (answer == YES) {
             rates.useDrafts();
@@ -65,13 +65,13 @@ public final class FrankDesk {
         if (!mayFrank(department, cents, day)) {
             return NO;
         }
-        if (enter(Books.PIECE, cents, department + Books.DEPARTMENTS * day) != YES) {
+        if (journal.append(Books.PIECE, cents, department + Books.DEPARTMENTS * day) != YES) {
             return CUT;
         }
         // Printing stands between the two records: whatever came out is booked already.
         piecesOut++;
         centsOut += cents;
-        return enter(Books.PIECE_DONE, 0, 0);
+        return journal.append(Books.PIECE_DONE, 0, 0);
     }
 
     public long printed(int what) {
@@ -95,7 +95,7 @@ public final class FrankDesk {
         if (books.sumAt(Books.LOADED) + cents >= LOADED_BOUND) {
             return NO;
         }
-        return enter(Books.REFILL, cents, 0);
+        return journal.append(Books.REFILL, cents, 0);
     }
 
     public int codeFor(int counter, int cents) {
@@ -116,7 +116,7 @@ public final class FrankDesk {
         if (!areCents(cents) || cents > books.sumAt(Books.ASCENDING) || !isDay(day)) {
             return NO;
         }
-        return enter(Books.CLAIM, cents, day);
+        return journal.append(Books.CLAIM, cents, day);
     }
 
     public long book(int what) {
@@ -176,14 +176,14 @@ public final class FrankDesk {
         if (!isDay(day) || day < books.at(Books.INSPECTION_DAY)) {
             return NO;
         }
-        return enter(Books.INSPECTION, day, 0);
+        return journal.append(Books.INSPECTION, day, 0);
     }
 
     public int lock() {
         if (!memory.hasPower()) {
             return CUT;
         }
-        return isLocked() ? NO : enter(Books.LOCKING, 0, 0);
+        return isLocked() ? NO : journal.append(Books.LOCKING, 0, 0);
     }
 
     public int unlock(int code) {
@@ -193,7 +193,7 @@ public final class FrankDesk {
         if (!isLocked() || code != codeFor(books.at(Books.REFILLS), 0)) {
             return NO;
         }
-        return enter(Books.UNLOCKING, 0, 0);
+        return journal.append(Books.UNLOCKING, 0, 0);
     }
 
     public int cut(int left, int mask) {
@@ -223,7 +223,7 @@ public final class FrankDesk {
         if (!memory.hasPower()) {
             return CUT;
         }
-        return isUncertain() ? enter(Books.SETTLING, wasPrinted ? 1 : 0, 0) : NO;
+        return isUncertain() ? journal.append(Books.SETTLING, wasPrinted ? 1 : 0, 0) : NO;
     }
 
     public int wear(int sector) {
@@ -244,11 +244,6 @@ public final class FrankDesk {
                 && centsOut <= books.sumAt(Books.ASCENDING)
                 && memory.wearSpread() <= 1 + memory.cutsSuffered();
         return holds ? YES : NO;
-    }
-
-    /** YES, or CUT if power failed before the record was whole. */
-    private int enter(int kind, int a, int b) {
-        return journal.append(kind, a, b) ? YES : CUT;
     }
 
     private boolean mayFrank(int department, int cents, int day) {
@@ -546,13 +541,14 @@ public final class FrankDesk {
         void apply(int kind, int a, int b) {
             switch (kind) {
                 case PIECE:
-                    applyPiece(a, b % DEPARTMENTS, b / DEPARTMENTS);
+                    addPiece(a, b % DEPARTMENTS);
+                    addToDay(a, b / DEPARTMENTS);
                     break;
                 case PIECE_DONE:
                     put(UNCERTAIN, 0);
                     break;
                 case SETTLING:
-                    applySettling(a);
+                    settleFor(a);
                     break;
                 case REFILL:
                     addToSum(DESCENDING, a);
@@ -581,22 +577,22 @@ public final class FrankDesk {
             }
         }
 
-        private void applyPiece(int cents, int department, int day) {
+        private void addPiece(int cents, int department) {
             addToSum(ASCENDING, cents);
             addToSum(DESCENDING, -cents);
             addOne(PIECES);
             addOne(departmentAt(department));
             addToSum(departmentAt(department) + 1, cents);
             put(UNCERTAIN, cents);
-            addToDay(day, cents);
         }
 
-        private void addToDay(int day, int cents) {
+        private void addToDay(int cents, int day) {
             int place = placeOfDay(day);
             if (at(place) == NO_DAY || at(place) < day) {
                 put(place, day);
                 put(place + 1, 0);
-                putSum(place + 2, 0);
+                put(place + 2, 0);
+                put(place + 3, 0);
             }
             if (at(place) == day) {
                 addOne(place + 1);
@@ -604,7 +600,7 @@ public final class FrankDesk {
             }
         }
 
-        private void applySettling(int wasPrinted) {
+        private void settleFor(int wasPrinted) {
             if (wasPrinted == 0) {
                 addToSum(DESCENDING, at(UNCERTAIN));
                 addToSum(CLAIMED, at(UNCERTAIN));
@@ -617,10 +613,7 @@ public final class FrankDesk {
         }
 
         private void addToSum(int i, int more) {
-            putSum(i, sumAt(i) + more);
-        }
-
-        private void putSum(int i, long sum) {
+            long sum = sumAt(i) + more;
             put(i, (int) sum);
             put(i + 1, (int) (sum >>> 32));
         }
@@ -661,10 +654,10 @@ public final class FrankDesk {
             return last;
         }
 
-        /** Whether the record was written whole; the books follow only then. */
-        boolean append(int kind, int a, int b) {
-            if (!hasRoom() && !startNextSector()) {
-                return false;
+        /** YES, or CUT if power failed before the record was whole; the books follow only a whole one. */
+        int append(int kind, int a, int b) {
+            if (!hasRoom() && !startSector((sector + 1) % Memory.SECTORS, memory.read(sector, GENERATION_AT) + 1)) {
+                return CUT;
             }
             int at = recordAt(records);
             boolean whole = memory.write(sector, at, last + 1)
@@ -672,10 +665,13 @@ public final class FrankDesk {
                     && memory.write(sector, at + 2, a)
                     && memory.write(sector, at + 3, b)
                     && memory.write(sector, at + RECORD_MARK, memory.markOf(sector, at, RECORD_MARK));
-            if (whole) {
-                follow(kind, a, b);
+            if (!whole) {
+                return CUT;
             }
-            return whole;
+            books.apply(kind, a, b);
+            records++;
+            last++;
+            return YES;
         }
 
         /** Takes the books from the memory alone, as nothing else outlives a cut. */
@@ -688,22 +684,14 @@ public final class FrankDesk {
             }
             for (int i = 0; i < MOST_RECORDS && isNextRecord(recordAt(i)); i++) {
                 int at = recordAt(i);
-                follow(memory.read(sector, at + 1), memory.read(sector, at + 2), memory.read(sector, at + 3));
+                books.apply(memory.read(sector, at + 1), memory.read(sector, at + 2), memory.read(sector, at + 3));
+                records++;
+                last++;
             }
-        }
-
-        private void follow(int kind, int a, int b) {
-            books.apply(kind, a, b);
-            records++;
-            last++;
         }
 
         private boolean hasRoom() {
             return records < MOST_RECORDS && memory.areBlank(sector, recordAt(records), RECORD_WORDS);
-        }
-
-        private boolean startNextSector() {
-            return startSector((sector + 1) % Memory.SECTORS, memory.read(sector, GENERATION_AT) + 1);
         }
 
         private boolean startSector(int next, int generation) {
