@@ -5,6 +5,7 @@ public final class P07RefillTest {
         ordinary(due);
         edges(due);
         sumsOfTwoWords(due);
+        boundOfLoaded(due);
         everyCut(due);
         allowedWhenLockedOrUncertain(due);
         due.end();
@@ -57,6 +58,19 @@ public final class P07RefillTest {
         due.is("loaded behind a cut", x.book(2), 499_999_999_500L);
         due.is("descending behind a cut", x.book(1), 499_999_999_500L);
         due.is("counter behind a cut", x.book(6), 500);
+    }
+
+    private static void boundOfLoaded(Due due) {
+        FrankDesk x = new FrankDesk(77);
+        long loaded = (1L << 40) - 1000;
+        Inside.books(x)[4] = (int) loaded;
+        Inside.books(x)[5] = (int) (loaded >> 32);
+        due.is("loaded would be 2 to the 40 and one", Desk.fill(x, 1001), 0);
+        due.is("loaded would be 2 to the 40", Desk.fill(x, 1000), 0);
+        due.is("loaded would be one less", Desk.fill(x, 999), 1);
+        due.is("loaded", x.book(2), (1L << 40) - 1);
+        due.is("one more", Desk.fill(x, 1), 0);
+        due.is("the counter", x.book(6), 1);
     }
 
     private static void everyCut(Due due) {

@@ -5,6 +5,7 @@ public final class P12DayTotalTest {
         places(due);
         edges(due);
         allPlaces(due);
+        moreThan32Bits(due);
         due.end();
     }
 
@@ -57,6 +58,18 @@ public final class P12DayTotalTest {
         day(due, x, 100_000, 1, 3);
         x.frank(0, 4, 0);
         day(due, x, 0, 0, 0);
+    }
+
+    private static void moreThan32Bits(Due due) {
+        FrankDesk x = new FrankDesk(77);
+        for (int i = 0; i < 7; i++) {
+            Desk.fill(x, 999_999_999);
+            x.frank(4, 999_999_990, 9);
+        }
+        due.is("cents of day 9", x.dayTotal(9, 1), 6_999_999_930L);
+        x.frank(4, 8, 41);
+        day(due, x, 41, 1, 8);
+        day(due, x, 9, 0, 0);
     }
 
     private static void allPlaces(Due due) {

@@ -1,3 +1,4 @@
+import java.util.Arrays;
 import java.util.HashMap;
 import java.util.Map;
 
@@ -11,6 +12,9 @@ public final class P17MountTest {
         everyCutOfANewSector(due);
         withPower(due);
         generationWithSign(due);
+        booksOfTheMemoryAlone(due);
+        greatestGeneration(due);
+        recordsWithWrongNumbers(due);
         due.end();
     }
 
@@ -118,6 +122,95 @@ public final class P17MountTest {
             due.is("the generation", x.word(1, 0), 18);
         }
         due.holds("such a mask was found", seen);
+    }
+
+    private static void mend(int[] memory, int from, int count) {
+        memory[from + count] = Desk.mark(Arrays.copyOfRange(memory, from, from + count));
+    }
+
+    private static void booksOfTheMemoryAlone(Due due) {
+        FrankDesk x = Desk.filled(1000);
+        Desk.powerOff(x);
+        int[] memory = Inside.memory(x);
+        for (int i = 2; i < 193; i++) {
+            memory[i] = i;
+        }
+        mend(memory, 0, 193);
+        due.is("mount()", x.mount(), 1);
+        due.is("ascending", x.book(0), 2 + (3L << 32));
+        due.is("descending", x.book(1), 4 + (5L << 32) + 1000);
+        due.is("loaded", x.book(2), 6 + (7L << 32) + 1000);
+        due.is("claimed", x.book(3), 8 + (9L << 32));
+        long[] singles = {10, 11, 13, 13, 14, 15};
+        for (int i = 0; i < singles.length; i++) {
+            due.is("book(" + (4 + i) + ")", x.book(4 + i), singles[i]);
+        }
+        due.is("uncertain()", x.uncertain(), 1);
+        due.is("pieces of department 15", x.counter(15, 0), 62);
+        due.is("cents of department 15", x.counter(15, 1), 63 + (64L << 32));
+        // Place p is of day 65 + 4 p now, which belongs there for p = 21 alone.
+        due.is("pieces of day 149", x.dayTotal(149, 0), 150);
+        due.is("cents of day 149", x.dayTotal(149, 1), 151 + (152L << 32));
+        due.is("pieces of day 65, in another place", x.dayTotal(65, 0), 0);
+    }
+
+    /** Every sector in turn is the newest one, among others with right and wrong marks. */
+    private static void greatestGeneration(Due due) {
+        for (int sector = 0; sector < 16; sector++) {
+            FrankDesk x = new FrankDesk(77);
+            int[] memory = Inside.memory(x);
+            Desk.powerOff(x);
+            for (int other = 0; other < 16; other++) {
+                int at = 256 * other;
+                System.arraycopy(memory, 0, memory, at, 194);
+                memory[at] = other == sector ? 100 : (other * 7 + sector) % 16 - 8;
+                memory[at + 1] = 1000 + other;
+                memory[at + 14] = 2000 + other;
+                mend(memory, at, 193);
+            }
+            int wrong = 256 * ((sector + 5) % 16);
+            memory[wrong] = 101;
+            due.is("mount() with sector " + sector, x.mount(), 1000 + sector);
+            due.is("its day", x.book(8), 2000 + sector);
+            due.is("inspect", x.inspect(3000), 1);
+            Desk.record(due, x, sector, 0, 1001 + sector, 6, 3000, 0);
+            for (int i = 0; i < 194; i++) {
+                oneWordBent(due, x, memory, 256 * sector + i, 1000 + sector);
+            }
+        }
+    }
+
+    /** No word of a sector may be other than its mark says. */
+    private static void oneWordBent(Due due, FrankDesk x, int[] memory, int at, int number) {
+        Desk.powerOff(x);
+        memory[at] ^= 1 << 20;
+        due.holds("mount() with word " + at + " bent", x.mount() < number || x.book(8) < 3000);
+        Desk.powerOff(x);
+        memory[at] ^= 1 << 20;
+        due.is("mount() with it as it was", x.mount(), number + 1);
+    }
+
+    private static void recordsWithWrongNumbers(Due due) {
+        for (int broken = 0; broken < 12; broken++) {
+            for (int word = 0; word < 5; word++) {
+                FrankDesk x = new FrankDesk(77);
+                for (int i = 0; i < 12; i++) {
+                    x.inspect(1001 + i);
+                }
+                x.cut(0, 0);
+                x.inspect(2000);
+                int[] memory = Inside.memory(x);
+                int at = 194 + 5 * broken;
+                memory[at + word]++;
+                if (word == 0) {
+                    mend(memory, at, 4);
+                }
+                due.is("mount() with word " + word + " of record " + broken, x.mount(), broken);
+                due.is("the day", x.book(8), 1000 + broken);
+                due.is("the place is not all ones", x.inspect(3000), 1);
+                Desk.record(due, x, 1, 0, broken + 1, 6, 3000, 0);
+            }
+        }
     }
 
     /** Words i modulo 32 = 0 become all ones, 1 (the mark's) stay; the others are to be found, half by half. */

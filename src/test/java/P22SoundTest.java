@@ -1,22 +1,22 @@
-import java.lang.reflect.Field;
+import java.util.Arrays;
 
 /** Promise 22: sound. No run of calls makes a desk unsound, so some of its state is bent by hand here. */
 public final class P22SoundTest {
-    public static void main(String[] args) throws ReflectiveOperationException {
+    public static void main(String[] args) {
         Due due = new Due();
         soundAlways(due);
         withoutPower(due);
-        for (int register : new int[] {0, 1, 2, 3, 4, 5, 6, 7, 8}) {
-            bentBooks(due, register);
+        for (int word = 0; word <= 8; word++) {
+            bentBooks(due, word);
         }
-        for (int department = 0; department < 16; department++) {
-            bentBooks(due, 15 + 3 * department);
-            bentBooks(due, 16 + 3 * department);
-            bentBooks(due, 17 + 3 * department);
+        for (int word = 15; word < 63; word++) {
+            bentBooks(due, word);
         }
         bentPrinter(due, "piecesOut");
         bentPrinter(due, "centsOut");
-        bentWear(due);
+        for (int sector = 0; sector < 16; sector++) {
+            bentWear(due, sector);
+        }
         due.end();
     }
 
@@ -49,48 +49,38 @@ public final class P22SoundTest {
         due.is("sound() with power", x.sound(), 1);
     }
 
-    private static void bentBooks(Due due, int i) throws ReflectiveOperationException {
+    private static void bentBooks(Due due, int i) {
         FrankDesk x = used();
-        int[] words = (int[]) inside(inside(x, "books"), "words");
-        words[i]++;
+        Inside.books(x)[i]++;
         due.is("sound() with word " + i + " of the books one more", x.sound(), 0);
-        words[i]--;
+        Inside.books(x)[i]--;
         due.is("sound() with it as it was", x.sound(), 1);
     }
 
-    private static void bentPrinter(Due due, String name) throws ReflectiveOperationException {
+    private static void bentPrinter(Due due, String name) {
         FrankDesk x = used();
-        Field field = open(x, name);
-        long was = field.getLong(x);
-        field.setLong(x, was + 1);
+        Inside.add(x, name, 1);
         due.is("sound() with one more of " + name, x.sound(), 0);
-        field.setLong(x, was - 1);
+        Inside.add(x, name, -2);
         due.is("sound() with one less of " + name, x.sound(), 1);
     }
 
-    private static void bentWear(Due due) throws ReflectiveOperationException {
+    private static void bentWear(Due due, int sector) {
         FrankDesk x = new FrankDesk(77);
-        int[] erases = (int[]) inside(inside(x, "memory"), "erases");
+        int[] erases = Inside.erases(x);
+        Arrays.fill(erases, 5);
+        erases[sector] = 6;
         due.is("sound() with wear 1 apart", x.sound(), 1);
-        erases[0] = 2;
+        erases[sector] = 7;
         due.is("sound() with wear 2 apart", x.sound(), 0);
+        erases[sector] = 3;
+        due.is("sound() with wear 2 apart, the other way", x.sound(), 0);
         x.cut(9, 0);
         due.is("a cut that is only told", x.sound(), 0);
         Desk.powerOff(x);
         x.mount();
         due.is("sound() with wear 2 apart and a cut", x.sound(), 1);
-        erases[0] = 0;
-        erases[15] = 3;
+        erases[sector] = 8;
         due.is("sound() with wear 3 apart and a cut", x.sound(), 0);
-    }
-
-    private static Object inside(Object x, String name) throws ReflectiveOperationException {
-        return open(x, name).get(x);
-    }
-
-    private static Field open(Object x, String name) throws ReflectiveOperationException {
-        Field field = x.getClass().getDeclaredField(name);
-        field.setAccessible(true);
-        return field;
     }
 }
