@@ -1,64 +1,72 @@
-/** Promise 1: a new object, and how its memory looks. */
+/** Promise 1: a new object. */
 public final class P01NewObjectTest {
     public static void main(String[] args) {
         Due due = new Due();
-        numbers(due);
-        books(due);
-        memory(due);
+        tooSmall(due);
+        tooLarge(due);
+        between(due);
+        noRates(due);
+        nothingThereYet(due);
         due.end();
     }
 
-    private static void numbers(Due due) {
-        int[][] pairs = {{1, 3027}, {0, 3027}, {-1, 3027}, {Integer.MIN_VALUE, 3027}, {2, 6054},
-            {9_999_998, 993_946}, {9_999_999, 996_973}, {10_000_000, 996_973}, {Integer.MAX_VALUE, 996_973}};
+    private static void tooSmall(Due due) {
+        due.of("1, if it is less");
+        for (int machine : new int[] {1, 0, -1, -2, -9_999_999, Integer.MIN_VALUE + 1, Integer.MIN_VALUE}) {
+            due.is("codeFor(0, 0) of machine " + machine, new FrankDesk(machine).codeFor(0, 0), 3027);
+        }
+    }
+
+    private static void tooLarge(Due due) {
+        due.of("9,999,999, if more");
+        for (int machine : new int[] {9_999_999, 10_000_000, 10_000_001, Integer.MAX_VALUE - 1, Integer.MAX_VALUE}) {
+            due.is("codeFor(0, 0) of machine " + machine, new FrankDesk(machine).codeFor(0, 0), 996_973);
+        }
+    }
+
+    private static void between(Due due) {
+        due.of("A machine with a number");
+        int[][] pairs = {{2, 6054}, {77, 233_079}, {4711, 260_197}, {9_999_998, 993_946}};
         for (int[] pair : pairs) {
             due.is("codeFor(0, 0) of machine " + pair[0], new FrankDesk(pair[0]).codeFor(0, 0), pair[1]);
         }
     }
 
-    private static void books(Due due) {
+    private static void noRates(Due due) {
+        due.of("No rates");
+        FrankDesk x = new FrankDesk(77);
+        for (int i = 0; i < 320; i++) {
+            due.is("weigh " + i, x.weigh(i / 40, i / 4 % 10 * 50 + 1, i % 4), -1);
+        }
+        due.of("No rates: no drafts, either");
+        FrankDesk y = new FrankDesk(77);
+        y.loadTable(0);
+        for (int i = 0; i < 320; i++) {
+            due.is("weigh " + i, y.weigh(i / 40, i / 4 % 10 * 50 + 1, i % 4), -1);
+        }
+    }
+
+    private static void nothingThereYet(Due due) {
+        due.of("A new object: no piece, no day kept, nothing uncertain, not locked, nothing printed, with power");
         FrankDesk x = new FrankDesk(77);
         for (int what = 0; what < 10; what++) {
-            due.is("book(" + what + ") at first", x.book(what), what == 8 ? 1000 : 0);
+            due.is("book(" + what + ")", x.book(what), what == 8 ? 1000 : 0);
         }
         for (int department = 0; department < 16; department++) {
             due.is("pieces of " + department, x.counter(department, 0), 0);
             due.is("cents of " + department, x.counter(department, 1), 0);
         }
-        due.is("uncertain() at first", x.uncertain(), 0);
-        due.is("printed(0) at first", x.printed(0), 0);
-        due.is("printed(1) at first", x.printed(1), 0);
-        due.is("sound() at first", x.sound(), 1);
-        due.is("mount() at first", x.mount(), 0);
-        for (int zone = 0; zone < 8; zone++) {
-            due.is("weigh() without a rate", x.weigh(zone, 1, 0), FrankDesk.BAD);
+        for (int day : new int[] {0, 1, 31, 32, 999, 1000, 100_000}) {
+            due.is("pieces of day " + day, x.dayTotal(day, 0), 0);
+            due.is("cents of day " + day, x.dayTotal(day, 1), 0);
         }
-    }
-
-    private static void memory(Due due) {
-        FrankDesk x = new FrankDesk(77);
-        for (int i = 0; i < 256; i++) {
-            due.is("word(0, " + i + ")", x.word(0, i), firstWord(i));
-        }
-        for (int sector = 0; sector < 16; sector++) {
-            due.is("wear(" + sector + ")", x.wear(sector), sector == 0 ? 1 : 0);
-            for (int i = 0; sector > 0 && i < 256; i++) {
-                due.is("word(" + sector + ", " + i + ")", x.word(sector, i), Desk.ALL_ONES);
-            }
-        }
-    }
-
-    private static int firstWord(int i) {
-        if (i == 0) {
-            return 1;
-        }
-        if (i == 14) {
-            return 1000;
-        }
-        if (i == 193) {
-            return -816160190;
-        }
-        boolean isDay = i >= 65 && i < 193 && (i - 65) % 4 == 0;
-        return isDay || i > 193 ? Desk.ALL_ONES : 0;
+        due.is("uncertain()", x.uncertain(), 0);
+        due.is("settle(true)", x.settle(true), 0);
+        due.is("printed(0)", x.printed(0), 0);
+        due.is("printed(1)", x.printed(1), 0);
+        due.is("frank(0, 1, 0)", x.frank(0, 1, 0), 0);
+        due.is("claimBack(0, 1)", x.claimBack(0, 1), 0);
+        due.is("sound()", x.sound(), 1);
+        due.is("mount()", x.mount(), 0);
     }
 }

@@ -7,18 +7,21 @@ public final class P17MountTest {
     public static void main(String[] args) {
         Due due = new Due();
         numbers(due);
-        fullSector(due);
-        dirtyPlace(due);
+        sectorWithoutARecord(due);
+        powerIsThere(due);
         everyCutOfANewSector(due);
         withPower(due);
-        generationWithSign(due);
+        signs(due);
+        failedEraseWithARightMark(due);
         booksOfTheMemoryAlone(due);
         greatestGeneration(due);
-        recordsWithWrongNumbers(due);
+        brokenRecords(due);
+        again(due);
         due.end();
     }
 
     private static void numbers(Due due) {
+        due.of("The number of the last one");
         FrankDesk x = new FrankDesk(77);
         for (int i = 0; i < 230; i++) {
             due.is("mount() of " + i + " records", x.mount(), i);
@@ -27,46 +30,44 @@ public final class P17MountTest {
         Desk.powerOff(x);
         due.is("mount() behind a cut", x.mount(), 230);
         due.is("the day", x.book(8), 1229);
-    }
-
-    private static void fullSector(Due due) {
-        FrankDesk x = new FrankDesk(77);
-        for (int i = 0; i < 12; i++) {
-            x.inspect(1000 + i);
+        for (int records = 0; records <= 30; records++) {
+            FrankDesk y = new FrankDesk(77);
+            Desk.writeMany(y, records);
+            Desk.powerOff(y);
+            due.is("mount() of " + records + " records, behind a cut", y.mount(), records);
         }
-        due.is("twelve fit", x.wear(1), 0);
-        due.is("words behind the records", x.word(0, 254), Desk.ALL_ONES);
-        x.cut(195, 0);
-        due.is("an erase and 194 words, and no more", x.inspect(2000), -7);
-        due.is("mount()", x.mount(), 12);
-        due.is("generation", x.word(1, 0), 2);
-        due.is("number", x.word(1, 1), 12);
-        due.is("inspection day", x.word(1, 14), 1011);
-        due.is("mark", x.word(1, 193), Desk.mark(Desk.words(x, 1, 0, 193)));
-        due.is("no record yet", x.word(1, 194), Desk.ALL_ONES);
-        due.is("the next one", x.inspect(2000), 1);
-        due.is("no other erase", x.wear(1), 1);
-        Desk.record(due, x, 1, 0, 13, 6, 2000, 0);
     }
 
-    private static void dirtyPlace(Due due) {
-        for (int left = 0; left < 5; left++) {
+    private static void sectorWithoutARecord(Due due) {
+        due.of("The number of the last one: which is in the books, if the sector has no record");
+        for (int sectors = 1; sectors <= 17; sectors++) {
             FrankDesk x = new FrankDesk(77);
-            x.inspect(1001);
-            x.cut(left, 0);
-            x.inspect(1002);
-            due.is("mount()", x.mount(), 1);
-            due.is("the day", x.book(8), 1001);
-            due.is("inspect(1003)", x.inspect(1003), 1);
-            due.is("erased", x.wear(1), left == 0 ? 0 : 1);
-            Desk.record(due, x, left == 0 ? 0 : 1, left == 0 ? 1 : 0, 2, 6, 1003, 0);
-            Desk.powerOff(x);
-            due.is("mount()", x.mount(), 2);
-            due.is("the day", x.book(8), 1003);
+            for (int i = 1; i <= 12 * sectors; i++) {
+                x.inspect(1000 + i);
+            }
+            x.cut(195, 0);
+            due.is("an erase and 194 words, and no more", x.inspect(2000), FrankDesk.CUT);
+            due.is("mount()", x.mount(), 12 * sectors);
+            due.is("the day", x.book(8), 1000 + 12 * sectors);
+            due.is("no record yet", x.word(sectors % 16, 194), Desk.ALL_ONES);
+            due.is("inspect", x.inspect(2000), 1);
+            due.is("no other erase", x.wear(sectors % 16), sectors < 16 ? 1 : 2);
+            Desk.record(due, x, sectors % 16, 0, 12 * sectors + 1, 6, 2000, 0);
         }
+    }
+
+    private static void powerIsThere(Due due) {
+        due.of("Power is there");
+        FrankDesk x = Desk.filled(1000);
+        Desk.powerOff(x);
+        due.is("book(1) before", x.book(1), FrankDesk.CUT);
+        due.is("mount()", x.mount(), 1);
+        due.is("book(1)", x.book(1), 1000);
+        due.is("frank", x.frank(0, 1, 1), 1);
     }
 
     private static void everyCutOfANewSector(Due due) {
+        due.of("of the sectors with a right mark: a new one has it only with its last word");
         for (int left = 0; left <= 200; left++) {
             FrankDesk x = new FrankDesk(77);
             for (int i = 0; i < 12; i++) {
@@ -86,6 +87,7 @@ public final class P17MountTest {
     }
 
     private static void withPower(Due due) {
+        due.of("Also with power: nothing is other then");
         FrankDesk x = Desk.uncertainAbout(1000, 10);
         x.cut(3, 0);
         due.is("mount()", x.mount(), 2);
@@ -94,13 +96,43 @@ public final class P17MountTest {
         due.is("book(0)", x.book(0), 10);
         due.is("settle", x.settle(true), -7);
         due.is("mount() behind the cut", x.mount(), 2);
+        for (int records = 0; records <= 26; records++) {
+            FrankDesk y = new FrankDesk(77);
+            FrankDesk untouched = new FrankDesk(77);
+            Desk.writeMany(y, records);
+            Desk.writeMany(untouched, records);
+            due.is("mount()", y.mount(), records);
+            due.is("the first place that looks other", Look.at(y).differsAt(Look.at(untouched)), -1);
+        }
+    }
+
+    /** No call brings a generation near an end of its word, so that it is written by hand. */
+    private static void signs(Due due) {
+        due.of("the greatest generation (with sign)");
+        int[][] pairs = {{0, -1}, {1, -1}, {1, 0}, {Integer.MAX_VALUE, Integer.MIN_VALUE}, {Integer.MAX_VALUE, -1},
+            {Integer.MAX_VALUE, Integer.MAX_VALUE - 1}, {-1, -2}, {-1, Integer.MIN_VALUE}, {Integer.MIN_VALUE + 1, Integer.MIN_VALUE}};
+        for (int[] pair : pairs) {
+            for (int greater = 0; greater < 2; greater++) {
+                FrankDesk x = new FrankDesk(77);
+                int[] memory = Inside.memory(x);
+                Desk.powerOff(x);
+                System.arraycopy(memory, 0, memory, 256, 194);
+                for (int sector = 0; sector < 2; sector++) {
+                    memory[256 * sector] = pair[sector == greater ? 0 : 1];
+                    memory[256 * sector + 1] = 50 + sector;
+                    mend(memory, 256 * sector, 193);
+                }
+                due.is("mount() with generations " + pair[0] + " and " + pair[1], x.mount(), 50 + greater);
+            }
+        }
     }
 
     /**
      * A failed erase can leave a right mark: the words that became all ones must only weigh nothing
      * together. The generation is all ones then, which is less than any other, with its sign.
      */
-    private static void generationWithSign(Due due) {
+    private static void failedEraseWithARightMark(Due due) {
+        due.of("the greatest generation (with sign): all ones is less than others");
         boolean seen = false;
         for (int day = 2000; day < 2100 && !seen; day++) {
             FrankDesk x = new FrankDesk(77);
@@ -129,6 +161,7 @@ public final class P17MountTest {
     }
 
     private static void booksOfTheMemoryAlone(Due due) {
+        due.of("its books, and what its records make of them");
         FrankDesk x = Desk.filled(1000);
         Desk.powerOff(x);
         int[] memory = Inside.memory(x);
@@ -156,6 +189,7 @@ public final class P17MountTest {
 
     /** Every sector in turn is the newest one, among others with right and wrong marks. */
     private static void greatestGeneration(Due due) {
+        due.of("of the sectors with a right mark the one with the greatest generation is in use");
         for (int sector = 0; sector < 16; sector++) {
             FrankDesk x = new FrankDesk(77);
             int[] memory = Inside.memory(x);
@@ -190,7 +224,23 @@ public final class P17MountTest {
         due.is("mount() with it as it was", x.mount(), number + 1);
     }
 
-    private static void recordsWithWrongNumbers(Due due) {
+    private static void again(Due due) {
+        due.of("Power is there: again and again");
+        FrankDesk x = Desk.filled(1000);
+        for (int i = 0; i < 40; i++) {
+            x.cut(i % 12, -1);
+            x.frank(1, 1, 1);
+            x.frank(1, 1, 1);
+            int last = x.mount();
+            due.is("mount() once more", x.mount(), last);
+            due.is("sound()", x.sound(), 1);
+            x.settle(true);
+        }
+        due.is("printed and booked", x.book(4), x.printed(0));
+    }
+
+    private static void brokenRecords(Due due) {
+        due.of("from the first one on, as long as each has the next number and a right mark");
         for (int broken = 0; broken < 12; broken++) {
             for (int word = 0; word < 5; word++) {
                 FrankDesk x = new FrankDesk(77);

@@ -4,19 +4,14 @@ import java.util.Arrays;
 public final class P22SoundTest {
     public static void main(String[] args) {
         Due due = new Due();
+        nothingYet(due);
         soundAlways(due);
+        wearFarApart(due);
         withoutPower(due);
-        for (int word = 0; word <= 8; word++) {
-            bentBooks(due, word);
-        }
-        for (int word = 15; word < 63; word++) {
-            bentBooks(due, word);
-        }
-        bentPrinter(due, "piecesOut");
-        bentPrinter(due, "centsOut");
-        for (int sector = 0; sector < 16; sector++) {
-            bentWear(due, sector);
-        }
+        registers(due);
+        departments(due);
+        printer(due);
+        wear(due);
         due.end();
     }
 
@@ -27,7 +22,68 @@ public final class P22SoundTest {
         return x;
     }
 
+    private static void nothingYet(Due due) {
+        due.of("THE THEOREM, of a new object");
+        due.is("sound()", new FrankDesk(77).sound(), 1);
+        due.is("sound() of another", new FrankDesk(Integer.MIN_VALUE).sound(), 1);
+    }
+
+    /** Sector 1 fails to be erased again and again, so that the cuts alone let it be so worn. */
+    private static void wearFarApart(Due due) {
+        due.of("the sectors' wear is at most one and the number of cuts apart");
+        FrankDesk x = new FrankDesk(77);
+        Desk.writeMany(x, 12);
+        for (int i = 1; i <= 60; i++) {
+            x.cut(0, i);
+            x.inspect(1000);
+            x.mount();
+            due.is("wear(1)", x.wear(1), i);
+            due.is("sound() behind " + i + " cuts", x.sound(), 1);
+        }
+    }
+
+    private static void registers(Due due) {
+        due.of("Whether ascending and descending are loaded and claimed together");
+        for (int word = 0; word < 8; word++) {
+            bentBooks(due, word);
+        }
+        FrankDesk x = used();
+        Inside.books(x)[4]++;
+        Inside.books(x)[6]--;
+        due.is("sound() with loaded one more, and claimed one less", x.sound(), 1);
+    }
+
+    private static void departments(Due due) {
+        due.of("departments add up to ascending and pieces");
+        bentBooks(due, 8);
+        for (int word = 15; word < 63; word++) {
+            bentBooks(due, word);
+        }
+        FrankDesk x = used();
+        Inside.books(x)[0]++;
+        Inside.books(x)[2]--;
+        due.is("sound() with ascending one more, and descending one less", x.sound(), 0);
+        FrankDesk y = used();
+        Inside.books(y)[15]++;
+        Inside.books(y)[60]--;
+        due.is("sound() with a piece in another department", y.sound(), 1);
+    }
+
+    private static void printer(Due due) {
+        due.of("no more was printed than booked");
+        bentPrinter(due, "piecesOut");
+        bentPrinter(due, "centsOut");
+    }
+
+    private static void wear(Due due) {
+        due.of("the sectors' wear is at most one and the number of cuts apart");
+        for (int sector = 0; sector < 16; sector++) {
+            bentWear(due, sector);
+        }
+    }
+
     private static void soundAlways(Due due) {
+        due.of("THE THEOREM, behind pieces, claims, cuts and settlements");
         FrankDesk x = used();
         due.is("sound()", x.sound(), 1);
         for (int left = 0; left < 30; left++) {
@@ -42,6 +98,7 @@ public final class P22SoundTest {
     }
 
     private static void withoutPower(Due due) {
+        due.of("Without power NO, too: CUT");
         FrankDesk x = used();
         Desk.powerOff(x);
         due.is("sound() without power", x.sound(), -7);

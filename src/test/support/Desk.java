@@ -32,6 +32,28 @@ final class Desk {
         }
     }
 
+    /** So many records that change nothing in the books of a desk whose inspection day is the first one. */
+    static void writeMany(FrankDesk x, int records) {
+        for (int i = 0; i < records; i++) {
+            if (x.inspect(1000) != FrankDesk.YES) {
+                throw new IllegalStateException("a record was refused");
+            }
+        }
+    }
+
+    /** Loads up to a sum, by as few refills as can be. */
+    static void loadUpTo(FrankDesk x, long sum) {
+        while (x.book(2) < sum) {
+            fill(x, (int) Math.min(999_999_999, sum - x.book(2)));
+        }
+    }
+
+    /** Power fails and comes back, so that the books are read from the memory. */
+    static void cycle(FrankDesk x) {
+        powerOff(x);
+        x.mount();
+    }
+
     /** Lets power fail at the next write or erase. */
     static void powerOff(FrankDesk x) {
         x.cut(0, 0);
@@ -52,6 +74,11 @@ final class Desk {
         }
         x.mount();
         return x;
+    }
+
+    /** How many writes and erases the record with this number takes, if no place was left half written. */
+    static int costOf(int number) {
+        return number > 1 && number % 12 == 1 ? 1 + 194 + 5 : 5;
     }
 
     static int mark(int... words) {
