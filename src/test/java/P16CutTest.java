@@ -79,6 +79,7 @@ public final class P16CutTest {
         FrankDesk x = new FrankDesk(77);
         Desk.writeMany(x, 16 * 12);
         int[] before = Desk.words(x, 0, 0, 64);
+        x.cut(0, -1);
         x.cut(0, 0);
         x.cut(0, 0x0000FFFF);
         x.cut(-1, -1);

@@ -75,12 +75,12 @@ public final class P18UncertainTest {
     private static void staysSo(Due due) {
         due.of("1, if some piece is uncertain: until it is settled");
         FrankDesk x = Desk.uncertainAbout(1000, 10);
-        Desk.fill(x, 5);
-        x.inspect(1000);
-        x.loadTable(1);
-        x.lock();
-        x.unlock(x.codeFor(2, 0));
-        x.frank(0, 1, 1);
+        due.is("refill", Desk.fill(x, 5), 1);
+        due.is("inspect", x.inspect(1000), 1);
+        due.is("loadTable", x.loadTable(1), 1);
+        due.is("lock", x.lock(), 1);
+        due.is("unlock", x.unlock(x.codeFor(2, 0)), 1);
+        due.is("frank", x.frank(0, 1, 1), 0);
         due.is("uncertain() behind other calls", x.uncertain(), 1);
         Desk.writeMany(x, 20);
         due.is("uncertain() behind a new sector", x.uncertain(), 1);

@@ -38,8 +38,8 @@ public final class T03SumsTest {
         due.of("SUMS of several words have the lower 32 bits first: ascending, cents of departments and of days");
         FrankDesk x = new FrankDesk(77);
         Desk.loadUpTo(x, end);
-        while (x.book(1) > 0) {
-            x.frank(3, (int) Math.min(999_999_999, x.book(1)), 9);
+        for (long franked = 0; franked < end; franked += 999_999_999) {
+            x.frank(3, (int) Math.min(999_999_999, end - franked), 9);
         }
         seen(due, x, end);
         int sector = x.mount() < 12 ? 1 : 2;
@@ -65,9 +65,9 @@ public final class T03SumsTest {
     private static void claimed(Due due, long end) {
         due.of("SUMS of several words have the lower 32 bits first: claimed");
         FrankDesk x = Desk.filled(999_999_999);
-        while (x.book(3) < end) {
+        for (long settled = 0; settled < end; settled += 999_999_999) {
             x.cut(5, 0);
-            x.frank(0, (int) Math.min(999_999_999, end - x.book(3)), 1);
+            x.frank(0, (int) Math.min(999_999_999, end - settled), 1);
             x.mount();
             x.settle(false);
         }

@@ -43,8 +43,10 @@ final class Desk {
 
     /** Loads up to a sum, by as few refills as can be. */
     static void loadUpTo(FrankDesk x, long sum) {
-        while (x.book(2) < sum) {
-            fill(x, (int) Math.min(999_999_999, sum - x.book(2)));
+        for (long loaded = x.book(2); loaded < sum; loaded += 999_999_999) {
+            if (fill(x, (int) Math.min(999_999_999, sum - loaded)) != FrankDesk.YES) {
+                throw new IllegalStateException("a refill was refused");
+            }
         }
     }
 
